@@ -89,14 +89,14 @@ public final class MachineMaker {
         }
         winner.forget();
         int dual = book.buildDual(f, 0);
-        if (dual == ROOM || !play(dual, bound)) {
+        if (dual == ROOM || !automaton.build(dual) || !game.explore(bound)) {
             return ROOM;
         }
         if (game.isWonBy(MACHINE)) {
             winner.takeMachine();
             return MACHINE;
         }
-        if (!play(f, bound)) {
+        if (!automaton.build(f) || !game.explore(bound)) {
             return ROOM;
         }
         if (game.isWonBy(OPPONENT)) {
@@ -135,10 +135,6 @@ public final class MachineMaker {
 
     private static boolean isSignal(int number) {
         return number >= 0 && number < SIGNALS;
-    }
-
-    private boolean play(int f, int bound) {
-        return automaton.build(f) && game.explore(bound);
     }
 
     /** The formulas. A part is there before its whole, so parts have the lower numbers. */
@@ -432,27 +428,26 @@ public final class MachineMaker {
         /** Whether the formula and all its parts have room; only then may their ways be asked for. */
         boolean learn(int f, int letter) {
             for (int part = 0; part <= f; part++) {
-                if (book.isPart(part, f) && !learnOne(part, letter)) {
+                if (!book.isPart(part, f)) {
+                    continue;
+                }
+                int cell = cell(part, letter);
+                if (counts[cell] == UNKNOWN) {
+                    find(part, letter);
+                    keepFound(cell);
+                }
+                if (counts[cell] == TOO_MANY) {
                     return false;
                 }
             }
             return true;
         }
 
-        private boolean learnOne(int f, int letter) {
-            int cell = cell(f, letter);
-            if (counts[cell] == UNKNOWN) {
-                find(f, letter);
-                if (found.over) {
-                    counts[cell] = TOO_MANY;
-                } else {
-                    keepFound(cell);
-                }
-            }
-            return counts[cell] != TOO_MANY;
-        }
-
         private void keepFound(int cell) {
+            if (found.over) {
+                counts[cell] = TOO_MANY;
+                return;
+            }
             if (used + found.count > kept.length) {
                 kept = Arrays.copyOf(kept, 2 * kept.length);
             }
@@ -521,7 +516,7 @@ public final class MachineMaker {
             WaySet spare = joinedTwice;
             joined.clear();
             joined.add(0L);
-            for (int f = 0; f < MOST_FORMULAS && !joined.over; f++) {
+            for (int f = 0; f < MOST_FORMULAS && set >> f != 0 && !joined.over; f++) {
                 if ((set >> f & 1) == 0) {
                     continue;
                 }
@@ -682,7 +677,7 @@ public final class MachineMaker {
 
         private static long allRaised(long row, int states, int counter) {
             long result = row;
-            for (int state = 0; state < MOST_STATES; state++) {
+            for (int state = 0; state < MOST_STATES && states >> state != 0; state++) {
                 if ((states >> state & 1) != 0) {
                     result = raised(result, state, counter);
                 }
@@ -823,7 +818,7 @@ public final class MachineMaker {
             for (int state = 0; state < count && state < MOST_POSITIONS; state++) {
                 int position = positionOfState[state];
                 for (int input = 0; input < SIGNALS; input++) {
-                    addStep(state, input, input, game.safeOutput(position, input), MACHINE);
+                    addStep(state, input, input, game.safeOutput(position, input));
                 }
             }
         }
@@ -833,7 +828,7 @@ public final class MachineMaker {
             for (int state = 0; state < count && state < MOST_POSITIONS; state++) {
                 int input = game.safeInput(positionOfState[state]);
                 for (int output = 0; output < SIGNALS; output++) {
-                    addStep(state, output, input, output, OPPONENT);
+                    addStep(state, output, input, output);
                 }
             }
         }
@@ -847,12 +842,12 @@ public final class MachineMaker {
             stateOf(0);
         }
 
-        private void addStep(int state, int by, int input, int output, int player) {
+        private void addStep(int state, int by, int input, int output) {
             if (input == NONE || output == NONE) {
                 return;
             }
             int cell = state * SIGNALS + by;
-            answers[cell] = player == MACHINE ? output : input;
+            answers[cell] = kind == MACHINE ? output : input;
             followers[cell] = stateOf(game.follower(positionOfState[state], input, output));
         }
 

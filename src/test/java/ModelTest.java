@@ -1,3 +1,5 @@
+import java.util.Arrays;
+
 /** Runs of calls that a counting rule chooses, on the program and on the model: all answers are alike. */
 public final class ModelTest {
 
@@ -55,6 +57,35 @@ public final class ModelTest {
         compare(run, "solve(" + f + ", " + bound + ")", maker.solve(f, bound), want);
         seen[want + 3]++;
         look(run);
+        for (int by = 0; by < 4 && want > 0; by++) {
+            followWinner(run, f, by, want == 1);
+        }
+    }
+
+    /** What comes when one input is given for ever to a machine, or one output to an opponent: who wins is right. */
+    private void followWinner(int run, int f, int by, boolean machine) {
+        int[] cameAt = new int[maker.size(0)];
+        Arrays.fill(cameAt, -1);
+        int[] letters = new int[maker.size(0)];
+        int state = 0;
+        int place = 0;
+        while (cameAt[state] < 0) {
+            cameAt[state] = place;
+            letters[place] = machine ? by + 4 * maker.gives(state, by) : maker.gives(state, by) + 4 * by;
+            state = maker.next(state, by);
+            place++;
+        }
+        int n = cameAt[state];
+        if (n > 8 || place - n > 8) {
+            return;
+        }
+        long first = 0;
+        long again = 0;
+        for (int i = 0; i < place; i++) {
+            first |= i < n ? (long) letters[i] << 4 * i : 0L;
+            again |= i >= n ? (long) letters[i] << 4 * (i - n) : 0L;
+        }
+        compare(run, "the winner of " + f + " by " + by, maker.has(f, first, n, again, place - n), machine ? 1 : 0);
     }
 
     private void look(int run) {
