@@ -345,6 +345,7 @@ public final class PromiseTest {
         int u0 = m.formula(UNTIL, yes, b0);
         int u1 = m.formula(UNTIL, yes, b1);
         due("UNTIL", m.states(u0), 2);
+        due("an UNTIL that is no part does not count", m.states(u1), 2);
         int both = m.formula(RELEASE, no, m.formula(AND, u0, u1));
         // {both} 0, {both u0} 0, {both u1} 1, {both u0 u1} 0 and 1
         due("two UNTILS again and again", m.states(both), 5);
