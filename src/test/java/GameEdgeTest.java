@@ -46,6 +46,18 @@ public final class GameEdgeTest extends Check {
         due("the whole comes to itself with 1", m.states(3), 4);
     }
 
+    private static void thereAreNOfThem() {
+        sentence("there are n of them");
+        MachineMaker m = of(new int[] {BIT, 2, 0}, new int[] {BIT, 3, 0}, new int[] {TRUE, 0, 0},
+            new int[] {UNTIL, 0, 1}, new int[] {UNTIL, 1, 0}, new int[] {UNTIL, 2, 0}, new int[] {UNTIL, 2, 1});
+        int two = m.formula(RELEASE, m.formula(FALSE, 0, 0), m.formula(AND, 5, 6));
+        // the third of these three is the first of the two that are asked about next
+        due("three UNTILS", m.states(chain(m, AND, 3, 4, 5)), 9);
+        due("the third one is not one of two", m.states(two), 5);
+        due("a machine puts both off for ever", m.solve(m.dual(two), 0), MACHINE);
+        dueSizes("two UNTILS after three", m, 2, 6, 6);
+    }
+
     private static void fromItsOwnNumberOn() {
         sentence("from its own number on, the first of the UNTILS that is put off");
         MachineMaker m = new MachineMaker();
@@ -178,6 +190,8 @@ public final class GameEdgeTest extends Check {
             int f = m.formula(AND, exact, nexts(m, exact, 4));
             due("only output " + output + " is lost", m.solve(f, 3), NEITHER);
             dueNeither("only output " + output + " is lost", m);
+            int atOnce = m.formula(AND, exact, m.formula(NEXT, exact, 0));
+            due("only output " + output + " is lost at once", m.solve(atOnce, 0), NEITHER);
         }
     }
 
@@ -185,12 +199,17 @@ public final class GameEdgeTest extends Check {
 
     private static void leastOutput() {
         sentence("it answers the least output by which a safe position comes");
-        MachineMaker m = of(new int[] {TRUE, 0, 0}, new int[] {BIT, 2, 0}, new int[] {BIT, 3, 0}, new int[] {AND, 1, 2});
+        MachineMaker m = of(new int[] {TRUE, 0, 0}, new int[] {BIT, 2, 0}, new int[] {BIT, 3, 0},
+            new int[] {AND, 1, 2});
         for (int f = 0; f <= 3; f++) {
             due("a machine whose least output is " + f, m.solve(f, 1), MACHINE);
             dueTable("least output " + f, m, new int[][] {{f, f, f, f}, {0, 0, 0, 0}},
                 new int[][] {{1, 1, 1, 1}, {1, 1, 1, 1}});
         }
+        int none = m.formula(AND, m.formula(NO_BIT, 2, 0), m.formula(NO_BIT, 3, 0));
+        due("output 0 alone, then 3 alone", m.solve(m.formula(AND, none, m.formula(NEXT, 3, 0)), 1), MACHINE);
+        dueTable("0, then 3", m, new int[][] {{0, 0, 0, 0}, {3, 3, 3, 3}, {0, 0, 0, 0}},
+            new int[][] {{1, 1, 1, 1}, {2, 2, 2, 2}, {2, 2, 2, 2}});
     }
 
     private static void leastInput() {
@@ -204,24 +223,38 @@ public final class GameEdgeTest extends Check {
         }
     }
 
+    /** Output 0 says what an input bit was some steps ahead; answers the formula, which a machine has. */
+    private static int echo(MachineMaker m, int bit, int steps) {
+        int set = m.formula(AND, m.formula(BIT, bit, 0), nexts(m, m.formula(NO_BIT, 2, 0), steps));
+        int unset = m.formula(AND, m.formula(NO_BIT, bit, 0), nexts(m, m.formula(BIT, 2, 0), steps));
+        return m.dual(m.formula(UNTIL, m.formula(TRUE, 0, 0), m.formula(OR, set, unset)));
+    }
+
     private static void numberedAsTheyAreComeTo() {
         sentence("its states are positions, numbered as they are come to: 0 the beginning");
-        // output 0 says what input 1 was one step ahead
         MachineMaker m = new MachineMaker();
-        int set = m.formula(AND, m.formula(BIT, 1, 0), m.formula(NEXT, m.formula(NO_BIT, 2, 0), 0));
-        int unset = m.formula(AND, m.formula(NO_BIT, 1, 0), m.formula(NEXT, m.formula(BIT, 2, 0), 0));
-        int wrongAtLast = m.formula(UNTIL, m.formula(TRUE, 0, 0), m.formula(OR, set, unset));
-        due("a machine", m.solve(m.dual(wrongAtLast), 1), MACHINE);
-        dueTable("what was one step ahead", m, new int[][] {{0, 0, 0, 0}, {0, 0, 0, 0}, {1, 1, 1, 1}},
+        due("input 1 one step ahead", m.solve(echo(m, 1, 1), 1), MACHINE);
+        dueSizes("input 1 one step ahead", m, 3, 3, 3);
+        dueTable("input 1 one step ahead", m, new int[][] {{0, 0, 0, 0}, {0, 0, 0, 0}, {1, 1, 1, 1}},
             new int[][] {{1, 1, 2, 2}, {1, 1, 2, 2}, {1, 1, 2, 2}});
-        dueSizes("what was one step ahead", m, 3, 3, 3);
+        sentence("from each, in the order of the numbers, for the inputs 0 .. 3");
+        m = new MachineMaker();
+        due("input 0 two steps ahead", m.solve(echo(m, 0, 2), 2), MACHINE);
+        // 1 and 2 have seen one input; 3 to 6 keep the last two
+        dueTable("input 0 two steps ahead", m, new int[][] {{0, 0, 0, 0}, {0, 0, 0, 0}, {0, 0, 0, 0}, {0, 0, 0, 0},
+            {0, 0, 0, 0}, {1, 1, 1, 1}, {1, 1, 1, 1}}, new int[][] {{1, 2, 1, 2}, {3, 4, 3, 4}, {5, 6, 5, 6},
+            {3, 4, 3, 4}, {5, 6, 5, 6}, {3, 4, 3, 4}, {5, 6, 5, 6}});
+    }
+
+    private static void opponentNumberedLikewise() {
         sentence("its states likewise");
         // output 0 has to say what input 1 will be one step later, which nobody can
-        MachineMaker o = new MachineMaker();
-        int one = o.formula(AND, o.formula(BIT, 2, 0), o.formula(NEXT, o.formula(BIT, 1, 0), 0));
-        int nought = o.formula(AND, o.formula(NO_BIT, 2, 0), o.formula(NEXT, o.formula(NO_BIT, 1, 0), 0));
-        due("an opponent", o.solve(o.formula(OR, one, nought), 1), OPPONENT);
-        dueTable("what will be one step later", o, new int[][] {{0, 0, 0, 0}, {2, 2, 2, 2}, {0, 0, 0, 0}, {0, 0, 0, 0}},
+        MachineMaker m = new MachineMaker();
+        int one = m.formula(AND, m.formula(BIT, 2, 0), m.formula(NEXT, m.formula(BIT, 1, 0), 0));
+        int nought = m.formula(AND, m.formula(NO_BIT, 2, 0), m.formula(NEXT, m.formula(NO_BIT, 1, 0), 0));
+        due("an opponent", m.solve(m.formula(OR, one, nought), 1), OPPONENT);
+        dueTable("what will be one step later", m,
+            new int[][] {{0, 0, 0, 0}, {2, 2, 2, 2}, {0, 0, 0, 0}, {0, 0, 0, 0}},
             new int[][] {{1, 2, 1, 2}, {3, 3, 3, 3}, {3, 3, 3, 3}, {3, 3, 3, 3}});
     }
 
@@ -238,6 +271,7 @@ public final class GameEdgeTest extends Check {
         beginsWithTheFormulaAlone();
         untilsOfTheFormulaAlone();
         untilsByAscendingNumbers();
+        thereAreNOfThem();
         fromItsOwnNumberOn();
         goodWhenNoneIsPutOff();
         countersFromBelowToTheBound();
@@ -251,6 +285,7 @@ public final class GameEdgeTest extends Check {
         leastOutput();
         leastInput();
         numberedAsTheyAreComeTo();
+        opponentNumberedLikewise();
         otherwiseNeither();
         finish("each edge of automata and games holds");
     }

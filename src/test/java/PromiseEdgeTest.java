@@ -183,6 +183,26 @@ public final class PromiseEdgeTest extends Check {
         due("28 as before", full.formulas(), 28);
     }
 
+    private static void dualOfADeepOne() {
+        sentence("ROOM when there were more than 28 then: what was made of it stays");
+        MachineMaker m = withFormulas(25);
+        due("24 NEXTs", m.dual(24), ROOM);
+        due("three were made", m.formulas(), 28);
+        due("the lowest first", m.dual(0), 25);
+        due("then the two above", m.dual(2), 27);
+        m = withFormulas(27);
+        due("26 NEXTs", m.dual(26), ROOM);
+        due("NO BIT was made", m.formula(NO_BIT, 0, 0), 27);
+        MachineMaker second = of(new int[] {BIT, 0, 0});
+        int top = 0;
+        for (int i = 0; i < 24; i++) {
+            top = second.formula(AND, 0, top);
+        }
+        due("24 ANDs, deep in the second part", second.dual(top), ROOM);
+        due("NO BIT and two ORs were made", second.formulas(), 28);
+        due("the ORs are those of the lowest ANDs", second.dual(2), 27);
+    }
+
     // ---- Promise 4
 
     private static void countsOfFormulas() {
@@ -469,19 +489,41 @@ public final class PromiseEdgeTest extends Check {
         }
     }
 
-    private static void manyStates() {
-        sentence("BAD when there is no such state or number");
-        MachineMaker m = of(new int[] {BIT, 3, 0}, new int[] {NO_BIT, 1, 0}, new int[] {RELEASE, 1, 0},
-            new int[] {BIT, 2, 0}, new int[] {RELEASE, 3, 2}, new int[] {UNTIL, 1, 4}, new int[] {RELEASE, 1, 5});
-        due("a machine in 100 positions", m.solve(6, 2), MACHINE);
-        int states = m.size(0);
-        due("the last state has an output", m.gives(states - 1, 3) >= 0 ? 1 : 0, 1);
-        due("the last state has a next one", m.next(states - 1, 3) >= 0 ? 1 : 0, 1);
-        due("one more has no output", m.gives(states, 3), BAD);
-        due("one more has no next", m.next(states, 3), BAD);
-        due("a smaller one", m.solve(0, 0), MACHINE);
+    private static void lastStateOfAMachine() {
+        sentence("BAD when there is no such state or input");
+        MachineMaker m = of(new int[] {NO_BIT, 0, 0}, new int[] {BIT, 2, 0}, new int[] {NEXT, 1, 0},
+            new int[] {AND, 2, 2}, new int[] {NO_BIT, 1, 0}, new int[] {OR, 2, 4}, new int[] {AND, 5, 5},
+            new int[] {UNTIL, 6, 2}, new int[] {RELEASE, 1, 7}, new int[] {UNTIL, 0, 8});
+        due("a machine with 60 states", m.solve(9, 3), MACHINE);
+        dueSizes("a machine with 60 states", m, 60, 88, 60);
+        due("state 57", m.next(57, 3), 26);
+        due("state 59, output", m.gives(59, 3), 1);
+        due("state 59, next", m.next(59, 3), 41);
+        due("state 60, output", m.gives(60, 3), BAD);
+        due("state 60, next", m.next(60, 3), BAD);
+        due("a smaller one", m.solve(1, 0), MACHINE);
+        due("it has its own states alone", m.size(0), 2);
         due("the states of the greater one are gone", m.gives(2, 0), BAD);
         due("and their next ones", m.next(2, 0), BAD);
+    }
+
+    private static void lastStateOfAnOpponent() {
+        sentence("BAD when there is no such state or number");
+        MachineMaker m = of(new int[] {NO_BIT, 1, 0}, new int[] {NO_BIT, 2, 0}, new int[] {BIT, 3, 0},
+            new int[] {FALSE, 0, 0}, new int[] {BIT, 1, 0}, new int[] {UNTIL, 4, 4}, new int[] {UNTIL, 5, 0},
+            new int[] {UNTIL, 5, 6}, new int[] {AND, 1, 7}, new int[] {UNTIL, 2, 8});
+        due("an opponent with 43 states", m.solve(9, 2), OPPONENT);
+        dueSizes("an opponent with 43 states", m, 43, 49, 43);
+        due("state 42, input", m.gives(42, 99), 2);
+        due("state 42, next", m.next(42, 1), 39);
+        due("state 42, itself", m.next(42, 3), 42);
+        due("state 43, input", m.gives(43, 0), BAD);
+        due("state 43, next", m.next(43, 0), BAD);
+        int later = m.formula(NEXT, 0, 0);
+        due("a smaller one", m.solve(later, 3), OPPONENT);
+        due("it has its own states alone", m.size(0), 3);
+        due("the states of the greater one are gone", m.gives(3, 0), BAD);
+        due("and their next ones", m.next(3, 0), BAD);
     }
 
     public static void main(String[] args) {
@@ -495,6 +537,7 @@ public final class PromiseEdgeTest extends Check {
         dualOfNoFormula();
         dualPartsFirst();
         dualWithoutRoom();
+        dualOfADeepOne();
         countsOfFormulas();
         wordLengths();
         wordLetters();
@@ -509,7 +552,8 @@ public final class PromiseEdgeTest extends Check {
         sizeOfTheLatest();
         machineStatesAndInputs();
         opponentStatesAndOutputs();
-        manyStates();
+        lastStateOfAMachine();
+        lastStateOfAnOpponent();
         finish("each edge of the promises holds");
     }
 }

@@ -66,7 +66,8 @@ public final class PromiseTest extends Check {
     private static void waysByLetters() {
         MachineMaker m = of(new int[] {BIT, 0, 0}, new int[] {BIT, 1, 0}, new int[] {UNTIL, 0, 1},
             new int[] {RELEASE, 0, 1}, new int[] {AND, 2, 3}, new int[] {AND, 2, 2}, new int[] {OR, 2, 3});
-        int[][] due = {{0, 1, 0, 1}, {0, 0, 1, 1}, {0, 1, 1, 2}, {0, 0, 1, 2}, {0, 0, 1, 4}, {0, 1, 1, 2}, {0, 1, 2, 3}};
+        int[][] due = {{0, 1, 0, 1}, {0, 0, 1, 1}, {0, 1, 1, 2}, {0, 0, 1, 2}, {0, 0, 1, 4}, {0, 1, 1, 2},
+            {0, 1, 2, 3}};
         for (int f = 0; f < due.length; f++) {
             for (int letter = 0; letter < 16; letter++) {
                 due("ways(" + f + ", " + letter + ")", m.ways(f, letter), due[f][letter % 4]);

@@ -149,6 +149,9 @@ public final class TermsEdgeTest extends Check {
         due("two places on is not next", m.has(1, 0x100L, 3, 0L, 1), 0);
         due("from the last first letter to the repeated ones", m.has(1, 0L, 1, 0x01L, 2), 1);
         due("from the last repeated letter to the first of them", m.has(1, 0L, 0, 1L, 1), 1);
+        int noBit = m.formula(NEXT, m.formula(NO_BIT, 0, 0), 0);
+        due("from the last repeated letter, NO BIT", m.has(noBit, 0L, 0, 1L, 1), 0);
+        due("from the last of eight and eight, NO BIT", m.has(nexts(m, noBit, 15), 0L, 8, 0x00000001L, 8), 0);
         MachineMaker round = of(new int[] {BIT, 0, 0});
         int eighth = nexts(round, 0, 8);
         due("eight places on, round eight letters", round.has(eighth, 0L, 0, 0x00000001L, 8), 1);
@@ -220,7 +223,8 @@ public final class TermsEdgeTest extends Check {
             for (int word = 0; word < 8; word++) {
                 long first = word & 1;
                 long again = word >> 1 & 1 | word >> 2 << 4;
-                due("kind " + f + " by word " + word, m.has(dual, first, 1, again, 2), 1 - m.has(f, first, 1, again, 2));
+                due("kind " + f + " by word " + word, m.has(dual, first, 1, again, 2),
+                    1 - m.has(f, first, 1, again, 2));
             }
         }
     }
@@ -300,7 +304,10 @@ public final class TermsEdgeTest extends Check {
         due("of two and three, two in common", m.ways(m.formula(RELEASE, 4, 5), 0), 8);
         due("of none and three", m.ways(m.formula(RELEASE, 6, 5), 0), 3);
         due("of three and none", m.ways(m.formula(RELEASE, 5, 6), 0), 0);
-        due("the RELEASE itself and nothing else", m.states(m.formula(RELEASE, 6, 0)), 1);
+        int always = m.formula(RELEASE, 6, 0);
+        due("the RELEASE itself and nothing else", m.states(always), 1);
+        int orNext = m.formula(OR, always, m.formula(NEXT, always, 0));
+        due("to hold next, as by NEXT, and not put off", m.ways(orNext, 1), 1);
     }
 
     private static void waysOfTheEmptySet() {
