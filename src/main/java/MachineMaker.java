@@ -723,7 +723,9 @@ public final class MachineMaker {
 
         /** Finds the positions that are safe for this player, and whether the beginning is. */
         boolean isWonBy(int player) {
-            Arrays.fill(safe, 0, count, true);
+            for (int position = 0; position < count; position++) {
+                safe[position] = true;
+            }
             safeCount = count;
             boolean changed = true;
             for (int round = 0; round <= MOST_POSITIONS && changed; round++) {

@@ -1,4 +1,4 @@
-/** What the tests by hand share: names of kinds, ways to build formulas, and a count of wrong answers. */
+/** What the tests share: names of kinds, ways to build formulas, and a count of what is wrong. */
 abstract class Check {
     static final int TRUE = 0;
     static final int FALSE = 1;
@@ -30,6 +30,14 @@ abstract class Check {
             wrong++;
             System.out.println((sentence.isEmpty() ? "" : "\"" + sentence + "\": ") + what + ": answered " + got
                 + ", due is " + want);
+        }
+    }
+
+    /** For what is no answer of a call: it is printed when it does not hold. */
+    static void dueTrue(String what, boolean holds) {
+        if (!holds) {
+            wrong++;
+            System.out.println(what);
         }
     }
 
@@ -89,7 +97,7 @@ abstract class Check {
     }
 
     static void finish(String allGood) {
-        System.out.println(wrong == 0 ? allGood : wrong + " answers are not as due");
+        System.out.println(wrong == 0 ? allGood : wrong + " things are not as due");
         if (wrong != 0) {
             System.exit(1);
         }
